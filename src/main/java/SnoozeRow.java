@@ -661,17 +661,11 @@ public final class SnoozeRow {
             awayBits = isAway ? awayBits | 1 << p : awayBits & ~(1 << p);
         }
 
-        /** Lets one in behind the last door; whoever was there ahead of an undo() leaves nothing. */
+        /** Lets one in; behind the last door all is still 0, since an undo() puts that back, too. */
         int lets(int itsKind, int itsV) {
             int p = sleepers;
             kind[p] = itsKind;
             v[p] = itsV;
-            owed[p] = 0;
-            lived[p] = 0;
-            puts(p, false);
-            for (int part = 0; part < PARTS; part++) {
-                rows[p * PARTS + part] = 0;
-            }
             sleepers++;
             return p;
         }

@@ -7,6 +7,7 @@ public final class ImageTest {
         image();
         imageHoldsAll();
         imageHoldsNoMore();
+        imageHoldsRows();
         newcomersAreNew();
         count();
         DUE.end();
@@ -155,6 +156,27 @@ public final class ImageTest {
         x.image();
         DUE.is("undo()", x.undo(), 1);
         DUE.is("told(1)", x.told(1), 3);
+    }
+
+    private static void imageHoldsRows() {
+        SnoozeRow x = Due.row(6, 0, 6, 0, 6, 0, 6, 0, 6, 0, 6, 0);
+        for (int p = 0; p < 6; p++) {
+            for (int part = 0; part < 4; part++) {
+                x.row(p, part, (p + part) % 10);
+            }
+        }
+        x.image();
+        for (int p = 0; p < 6; p++) {
+            for (int part = 0; part < 4; part++) {
+                x.row(p, part, 9);
+            }
+        }
+        x.undo();
+        for (int p = 0; p < 6; p++) {
+            for (int part = 0; part < 4; part++) {
+                DUE.is("row(" + p + ", " + part + ", 0)", x.row(p, part, 0), (p + part) % 10);
+            }
+        }
     }
 
     private static void newcomersAreNew() {

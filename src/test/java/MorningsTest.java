@@ -8,6 +8,7 @@ public final class MorningsTest {
         limits();
         passBounds();
         on();
+        onRows();
         fills();
         sent();
         stop();
@@ -151,6 +152,21 @@ public final class MorningsTest {
         DUE.is("told(0)", x.told(0), 0);
     }
 
+    private static void onRows() {
+        DUE.promise("12 on: each one's own ROW");
+        SnoozeRow x = Due.row(6, 0, 6, 0, 6, 0, 6, 0, 6, 0, 6, 0);
+        for (int p = 0; p < 6; p++) {
+            x.row(p, 3, p + 1);
+        }
+        for (int p = 5; p >= 0; p--) {
+            // the last one there has p + 1 more in the fourth MORNING; what it did makes it less
+            int before = x.on(3, 0);
+            int less = Math.min(9, x.on(3, 20 + p) / 10);
+            DUE.is("on(4, 0) with " + p + " last", x.on(4, 0), before + 9 - less + p + 1);
+            x.away(p, true);
+        }
+    }
+
     private static void fills() {
         DUE.promise("13 fills");
         SnoozeRow x = Due.row(0, 0);
@@ -232,6 +248,15 @@ public final class MorningsTest {
         fewest();
     }
 
+    private static void all() {
+        SnoozeRow x = Due.row(0, 0, 0, 0, 0, 0, 0, 0, 0, 0, 0, 0);
+        DUE.is("best(1, 1) of six", x.best(1, 1), 63);
+        x.away(1, true);
+        DUE.is("best(1, 1) of five", x.best(1, 1), 61);
+        x.away(3, true);
+        DUE.is("best(1, 1) of four", x.best(1, 1), 53);
+    }
+
     private static void leastOfSeveral() {
         SnoozeRow x = Due.row(0, 0, 0, 0, 0, 0);
         Due.street(x, "late 11 p<2;soon 9 p=2;bear 0");
@@ -259,5 +284,6 @@ public final class MorningsTest {
         x.dip(9999);
         DUE.is("best(2, 1) with DEEP at its most", x.best(2, 1), 0);
         leastOfSeveral();
+        all();
     }
 }

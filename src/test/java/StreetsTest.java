@@ -11,6 +11,7 @@ public final class StreetsTest {
         full();
         tests();
         joins();
+        afterFaults();
         sums();
         DUE.end();
     }
@@ -67,6 +68,10 @@ public final class StreetsTest {
                 well(text);
             } else {
                 fault(text, cut);
+                // nothing of an earlier text is read on
+                SnoozeRow x = new SnoozeRow();
+                Due.street(x, good);
+                DUE.is("street() of " + text + " behind another", Due.street(x, text), -10 - cut);
             }
         }
         fault("x", 0);
@@ -160,7 +165,7 @@ public final class StreetsTest {
         DUE.is("count(1)", x.count(1), 6);
     }
 
-    /** Whether an E holds for one who is third, of KIND 4, v 7, OWED 59, LIVED 30, at MORNING 13. */
+    /** Whether an E holds for one who is third, of KIND 4, v 7, OWED 50 .. 59, LIVED 30, at MORNING 13. */
     private static void holds(String test, boolean is) {
         SnoozeRow x = Due.row(0, 0, 0, 0, 4, 7);
         x.away(0, true);
@@ -169,8 +174,9 @@ public final class StreetsTest {
         x.owe(2, 30);
         x.pass(1);
         x.owe(2, 59);
-        x.pass(0);
         DUE.is("street() of " + test, Due.street(x, "late 50 " + test), 0);
+        DUE.is(test, x.of(2, 5), (is ? 59 : 9) + 7);
+        x.owe(2, 50);
         DUE.is(test, x.of(2, 5), (is ? 59 : 9) + 7);
     }
 
@@ -214,6 +220,10 @@ public final class StreetsTest {
                 holds(y + "&" + y + "&" + n, false);
             }
         }
+        holds("p<0", false);
+        holds("p=2&p<0|p=2", true);
+        holds("p=2|p<0", true);
+        holds("!p<0", true);
         holds("!p=2|p=2", true);
         holds("!p=2&p=1", false);
         holds("!!p=2", true);
@@ -222,6 +232,22 @@ public final class StreetsTest {
         holds("(p=2)&!(p=1|(p=1|!p=2))", true);
         holds("p=1|p=2&(p=1|p=2&(p=1|p=2&(p=1|p=2&(p=1|p=2))))", true);
         holds("p=1|p=2&(p=1|p=2&(p=1|p=2&(p=1|p=2&(p=1|p=1))))", false);
+    }
+
+    private static void afterFaults() {
+        DUE.promise("9 street: behind FAULTS");
+        SnoozeRow x = Due.row(0, 0);
+        for (int i = 0; i < 4; i++) {
+            String tests = "late 1 p=1|p=1|p=1|p=1|p=1|p=1|p=1|p=1|p=1|p=1|p=1|p=1|p=1|p=1|p=1|p=1|p=1|p=1|";
+            DUE.is("street()", Due.street(x, tests), -10 - tests.length());
+        }
+        DUE.is("street()", Due.street(x, "late 3 p=1|p=1|p=1|p=1|p=0;bear 5"), 0);
+        DUE.is("of(0, 5)", x.of(0, 5), 12);
+        DUE.is("street()", Due.street(x, "bear 6;late 1 p"), -25);
+        DUE.is("told(1)", x.told(1), 5);
+        DUE.is("street()", Due.street(x, "soon 3 p=0"), 1);
+        DUE.is("told(1)", x.told(1), 40);
+        DUE.is("of(0, 5)", x.of(0, 5), 6);
     }
 
     private static void sums() {
