@@ -34,14 +34,14 @@ public final class SnoozeRow {
         ran = new Trace();
         Sleeper[] kinds = {new Sleeper(ran), new Lodger(ran), new Clerk(ran), new Boy(ran),
             new Lord(ran), new Nurse(ran), new Told(ran)};
+        text = new byte[SIGNS];
         streets = new Street[STREETS];
         for (int s = 0; s < STREETS; s++) {
-            streets[s] = new Street();
+            streets[s] = new Street(text);
         }
         now = new Doors(kinds, streets);
         imaged = new Doors(kinds, streets);
         trial = new Doors(kinds, streets);
-        text = new byte[SIGNS];
         items = new long[TAPES][ITEMS];
         sorts = new int[TAPES];
         Arrays.fill(sorts, EMPTY);
@@ -155,7 +155,7 @@ public final class SnoozeRow {
         }
         int length = textLength;
         textLength = 0;
-        int fault = streets[streetCount].faultOf(text, length);
+        int fault = streets[streetCount].faultOf(length);
         if (fault != Street.WELL) {
             return FAULTS - fault;
         }
@@ -811,13 +811,16 @@ public final class SnoozeRow {
         int bear;
         /** What the letters p k v o l m of a TEST stand for, of the one looked at. */
         final int[] looks = new int[6];
-        byte[] text;
+        final byte[] text;
         int length;
         int at;
 
-        int faultOf(byte[] newText, int newLength) {
-            text = newText;
-            length = newLength;
+        Street(byte[] text) {
+            this.text = text;
+        }
+
+        int faultOf(int signs) {
+            length = signs;
             at = 0;
             clauses = 0;
             codeCount = 0;
@@ -871,7 +874,7 @@ public final class SnoozeRow {
         private int number() {
             int n = NO_NUMBER;
             for (int d = 0; d < DIGITS && at < length && text[at] >= '0' && text[at] <= '9'; d++) {
-                n = Math.max(n, 0) * 10 + text[at] - '0';
+                n = (n == NO_NUMBER ? 0 : n * 10) + text[at] - '0';
                 at++;
             }
             return n;
