@@ -148,6 +148,30 @@ public final class StreetsTest {
         DUE.is("99 signs", Due.street(x, hundred.toString()), 1);
         DUE.is("100 signs", Due.street(x, hundred + "0"), 2);
         DUE.is("cut at 100", Due.street(x, hundred + "|p=1"), -110);
+        // 100 signs that end behind a ;, a letter, a sign, a blank, a word, a ( and a !
+        String[] last = {"0;", "|p", "|p=", "&(", "&!", "0;l", ";b", ";late", ";bear ", ";late 1", ";late 1 "};
+        for (String end : last) {
+            StringBuilder text = new StringBuilder("late 10 p=1");
+            while (text.length() + end.length() + 4 <= 100) {
+                text.append("|p=1");
+            }
+            while (text.length() + end.length() < 100) {
+                text.insert(8, '!');
+            }
+            DUE.is("100 signs with " + end, Due.feeds(x, text + end), 100);
+            DUE.is("100 signs with " + end, x.street(), -110);
+        }
+        tenSums();
+    }
+
+    private static void tenSums() {
+        SnoozeRow x = Due.row(0, 0);
+        String ten = "late 1 p=0;late 2 p=0;late 4 p=0;soon 8 p=0;bear 3;bear 4;bear 5;bear 6;bear 7;late 9 p<1";
+        DUE.is("ten", Due.street(x, ten), 0);
+        DUE.is("of(0, 5)", x.of(0, 5), 9 + 1 + 2 + 4 - 8 + 9);
+        DUE.is("ten and a fault", Due.street(x, ten + "|"), -10 - ten.length() - 1);
+        DUE.is("one behind them", Due.street(x, "late 3 p=0"), 1);
+        DUE.is("of(0, 5)", x.of(0, 5), 12);
     }
 
     private static void full() {
