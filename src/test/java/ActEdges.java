@@ -62,6 +62,8 @@ final class ActEdges {
         bodies(e, nurse, 30, 10);
         nurse.act(2, 1, 5);
         bodies(e, nurse, 11, 30, 10);
+        e.is("act(2, 2, 5): ((5 - 2) * 3 + 2 - 3) * 2", nurse.act(2, 2, 5), 16);
+        bodies(e, nurse, 60, 12, 11, 30, 10);
         SnoozeRow told = third(6);
         told.act(2, 2, 5);
         e.is("trace(0), the BOY's", told.trace(0), 40);

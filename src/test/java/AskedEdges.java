@@ -7,6 +7,7 @@ final class AskedEdges {
         e.says("Terms", "All that follows is asked, goes on from how all is (MORNINGS beyond 9999, too), and changes nothing.",
             AskedEdges::beyond9999);
         e.says("Terms", "ON n MORNINGS (0 .. 60): DEEP; OWED of one; LIVED of one.", AskedEdges::on);
+        e.says("Terms", "goes on from how all is", AskedEdges::goesOnFromAll);
         e.says("Terms", "FILLS to q (0 .. 9999)", AskedEdges::fillsTo);
         e.says("Terms", "the fewest MORNINGS (0 .. 60) behind which DEEP is q or more", AskedEdges::fewestMornings);
         e.says("Terms", "(-5: not by then)", AskedEdges::notByThen);
@@ -82,6 +83,32 @@ final class AskedEdges {
         e.is("told(2)", x.told(2), 0);
         e.is("of(1, 2)", x.of(1, 2), 0);
         e.is("of(1, 3)", x.of(1, 3), lived);
+    }
+
+    /** Of all that is each one's own: its KIND, v, OWED, LIVED, AWAY and ROW, of the last one, too. */
+    private static void goesOnFromAll(Edges e) {
+        SnoozeRow x = Due.row(6, 0, 6, 0, 6, 0, 6, 0, 6, 0, 6, 0);
+        for (int p = 0; p < 6; p++) {
+            x.row(p, 3, p + 1);
+        }
+        x.away(0, true);
+        x.pass(3);
+        for (int p = 5; p > 0; p--) {
+            // the last one there snoozes as it is URGED to now
+            e.is("on(1, 0) with " + p + " last", x.on(1, 0), x.told(2) + x.of(p, 5));
+            e.is("of(" + p + ", 5)", x.of(p, 5), 9 - x.of(p, 3) / 10 + p + 1);
+            x.away(p, true);
+        }
+        SnoozeRow y = Due.row(4, 9, 1, 7);
+        y.away(0, true);
+        y.owe(1, 80);
+        y.dip(5);
+        e.is("on(1, 0)", y.on(1, 0), 5 + 16 + 10);
+        e.is("on(1, 11)", y.on(1, 11), 40);
+        y.away(0, false);
+        y.away(1, true);
+        e.is("on(1, 0)", y.on(1, 0), 5 + 36);
+        e.is("on(1, 11)", y.on(1, 11), 80);
     }
 
     private static void on(Edges e) {

@@ -5,6 +5,7 @@ final class ImageEdges {
 
     static void all(Edges e) {
         e.says("Terms", "THE IMAGE: SLEEPERS with all that is theirs", ImageEdges::sleepers);
+        e.says("Terms", "SLEEPERS with all that is theirs, DEEP", ImageEdges::sixRows);
         e.says("Terms", "DEEP, MORNING, SEEN", ImageEdges::deepAndMorning);
         e.says("Terms", "SEEN, the PLAN, the BOOK", ImageEdges::toldByHand);
         e.says("Terms", "which STREET holds.", ImageEdges::whichStreet);
@@ -56,6 +57,27 @@ final class ImageEdges {
         e.is("row(2, 0, 0)", x.row(2, 0, 0), 0);
     }
 
+    private static void sixRows(Edges e) {
+        SnoozeRow x = Due.row(6, 0, 6, 0, 6, 0, 6, 0, 6, 0, 6, 0);
+        for (int p = 0; p < 6; p++) {
+            for (int part = 0; part < 4; part++) {
+                x.row(p, part, (p + 2 * part) % 10);
+            }
+        }
+        x.image();
+        for (int p = 0; p < 6; p++) {
+            for (int part = 0; part < 4; part++) {
+                x.row(p, part, 9);
+            }
+        }
+        x.undo();
+        for (int p = 0; p < 6; p++) {
+            for (int part = 0; part < 4; part++) {
+                e.is("row(" + p + ", " + part + ", 9)", x.row(p, part, 9), (p + 2 * part) % 10);
+            }
+        }
+    }
+
     private static void deepAndMorning(Edges e) {
         SnoozeRow x = Due.row(0, 0);
         x.pass(3);
@@ -70,24 +92,34 @@ final class ImageEdges {
 
     private static void toldByHand(Edges e) {
         SnoozeRow x = Due.row(0, 0, 0, 0);
-        x.see(0, 0, 7);
+        x.see(1, 0, 7);
+        x.plan(1, 1);
         x.plan(0, 0);
-        x.plan(0, 0);
-        x.book(0, 0);
         x.book(1, 0);
+        x.book(0, 0);
         x.book(1, 3);
         x.image();
-        x.see(0, 0, 8);
+        x.see(-1, 0, 0);
+        x.see(0, 1, 8);
+        x.see(0, 1, 9);
         x.plan(-1, 0);
+        x.plan(3, 0);
         x.book(-1, 0);
         x.book(0, 9);
         x.undo();
         e.is("count(2)", x.count(2), 1);
-        e.is("of(0, 8)", x.of(0, 8), 7);
+        e.is("of(1, 7)", x.of(1, 7), 1);
+        e.is("of(1, 8)", x.of(1, 8), 7);
         e.is("count(3)", x.count(3), 2);
-        e.is("ends(0)", x.ends(0), 18);
+        // 1 is AWAY, and so the first one's 9 go deep, and none are done
+        e.is("ends(0)", x.ends(0), 9);
+        e.is("ends(1)", x.ends(1), 0);
         e.is("count(4)", x.count(4), 3);
         e.is("looked()", x.looked(), 2);
+        x.owe(0, 1);
+        e.is("looked()", x.looked(), 1);
+        x.owe(1, 1);
+        e.is("looked()", x.looked(), 0);
         // none then, and none in THE IMAGE
         SnoozeRow y = Due.row(0, 0);
         y.image();

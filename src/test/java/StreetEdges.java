@@ -16,6 +16,7 @@ final class StreetEdges {
         e.says("Terms", "F: !F, (E), or a TEST", StreetEdges::parts);
         e.says("Terms", "a TEST: a letter, < or = or >, a number", StreetEdges::testSigns);
         e.says("Terms", "a number (1 or 2 digits)", StreetEdges::digitsOfTests);
+        e.says("Terms", "< or = or >, a number (1 or 2 digits)", StreetEdges::eachNumber);
         e.says("Terms", "of a SLEEPER p its number, k its KIND, v its v", StreetEdges::letters);
         e.says("Terms", "o OWED by 10 (cut)", StreetEdges::owedByTen);
         e.says("Terms", "l LIVED by 10 (cut)", StreetEdges::livedByTen);
@@ -35,6 +36,7 @@ final class StreetEdges {
         e.says("9", "THE TEXT, which is empty then, is a STREET, and holds: its number.", StreetEdges::streetHolds);
         e.says("9", "FULL: there are 6 (THE TEXT stays)", StreetEdges::streetFull);
         e.says("9", "-10 less the FAULT (the one that held holds)", StreetEdges::streetFault);
+        e.says("9", "-10 less the FAULT", StreetEdges::behindFaults);
     }
 
     private static void fault(Edges e, String text, int place) {
@@ -87,6 +89,10 @@ final class StreetEdges {
         fault(e, "bear 1;;bear 1", 7);
         fault(e, "bear 1,bear 1", 6);
         fault(e, "bear 1bear 1", 6);
+        SnoozeRow x = Due.row(0, 0);
+        e.is("street() of ten", Due.street(x, repeated("late 1 p<1", ";soon 2 p<1", 1) + repeated("", ";bear 1", 7) + ";late 50 p=0"), 0);
+        e.is("of(0, 5), the first and the tenth, too", x.of(0, 5), 9 + 1 - 2 + 50);
+        e.is("told(1)", x.told(1), 1);
     }
 
     private static void words(Edges e) {
@@ -274,6 +280,29 @@ final class StreetEdges {
         holds(e, x, "v=90", false);
     }
 
+    /** Whether a TEST holds for one who is third, of KIND 4, v 7, OWED 55, LIVED 30, at MORNING 13: each number. */
+    private static void eachNumber(Edges e) {
+        int[] values = {2, 4, 7, 5, 3, 3};
+        for (int t = 0; t < 6; t++) {
+            for (int n = 0; n <= 99; n++) {
+                SnoozeRow x = Due.row(0, 0, 0, 0, 4, 7);
+                x.away(0, true);
+                x.away(1, true);
+                x.pass(12);
+                x.owe(2, 30);
+                x.pass(1);
+                x.owe(2, 55);
+                String letter = "late 50 p=2&" + "pkvolm".charAt(t);
+                Due.street(x, letter + "<" + n);
+                e.is("of(2, 5), " + letter + "<" + n, x.of(2, 5), 16 + (values[t] < n ? 50 : 0));
+                Due.street(x, letter + "=" + n);
+                e.is("of(2, 5), " + letter + "=" + n, x.of(2, 5), 16 + (values[t] == n ? 50 : 0));
+                Due.street(x, letter + ">" + n);
+                e.is("of(2, 5), " + letter + ">" + n, x.of(2, 5), 16 + (values[t] > n ? 50 : 0));
+            }
+        }
+    }
+
     private static void letters(Edges e) {
         SnoozeRow x = Due.row(6, 9, 0, 0, 1, 4, 1, 4, 1, 4, 6, 9);
         Due.street(x, "late 1 p=0;late 2 p>4;late 4 k>5;late 8 k<1;late 16 v=9;late 32 v<1");
@@ -380,6 +409,13 @@ final class StreetEdges {
         }
         fault(e, repeated("late 1 p=1", "|p=1", 22) + "|p", 100);
         fault(e, repeated("late 1 p=1", "|p=1", 22) + ";b", 100);
+        fault(e, repeated("late 1 p=1", "|p=1", 22) + "0;", 100);
+        fault(e, repeated("late 1 p=1", "|p=1", 22) + "|!", 100);
+        fault(e, repeated("late 1 p=1", "|p=1", 22) + "&(", 100);
+        fault(e, repeated("late 10 p=1", "|p=1", 21) + "|(p=1", 100);
+        fault(e, repeated("late 10 p=1", "|p=1", 21) + ";bear", 100);
+        fault(e, repeated("late 1 p=1", "|p=1", 21) + ";bear ", 100);
+        fault(e, repeated("bear 7;late 1 p=1", "|p=1", 19) + ";late 1", 100);
         // what stood there in an earlier text is not of this one
         SnoozeRow x = new SnoozeRow();
         Due.street(x, "bear 77");
@@ -527,5 +563,21 @@ final class StreetEdges {
         e.is("told(1)", x.told(1), 66);
         e.is("of(0, 5)", x.of(0, 5), 10);
         e.is("street(), the next", Due.street(x, "bear 3"), 1);
+    }
+
+    /** Nothing of a text that was none is in the next STREET, however many there were. */
+    private static void behindFaults(Edges e) {
+        SnoozeRow x = Due.row(0, 0);
+        e.is("street()", Due.street(x, "late 50 p=0;late 50 p=0;bear 77;soon"), -46);
+        e.is("street()", Due.street(x, "late 1 p=0"), 0);
+        e.is("of(0, 5)", x.of(0, 5), 10);
+        e.is("told(1)", x.told(1), 40);
+        String hundred = repeated("late 10 p=1", "|p=1", 22) + "|";
+        for (int i = 0; i < 3; i++) {
+            e.is("street()", Due.street(x, hundred), -110);
+        }
+        e.is("street()", Due.street(x, "late 3 p=1|p=1|p=0;bear 5"), 1);
+        e.is("of(0, 5)", x.of(0, 5), 12);
+        e.is("told(1)", x.told(1), 5);
     }
 }
