@@ -9,17 +9,15 @@ import java.util.regex.Matcher;
 import java.util.regex.Pattern;
 
 /**
- * The document's sentences that name a boundary case, each with a test of its own.
- * A sentence is told by its words, which have to stand in its section once; what is left over is
- * looked at for words that tell a boundary, so that none of them goes without a test.
+ * The document's sentences, each with a test of its own.
+ * A sentence is told by its words, which have to stand in its section once; a word that is left over
+ * is told, so that none goes without a test.
  */
 final class Edges {
     private static final Path DOC = Path.of("../shared/DOC.md");
     private static final Pattern HEAD = Pattern.compile("(?m)^## (?:Promise )?(\\d+|[^:\\n]+)(?::.*)?$");
-    private static final Pattern BOUNDARY = Pattern.compile("\\d+ \\.\\. \\d+|at most|at least|at first|\\bcut\\b"
-        + "|modulo|below|beyond|above|behind which|too early|without|whether|wrapping|\\bbits\\b|\\bleast\\b|fewest"
-        + "|of several|lowest|\\bempty\\b|[Nn]one|\\bends ahead|NONE|BAD|STATE|FULL|NOTHING|CAST|PLACE|SIZE"
-        + "|\\bNO\\b|-5|-10001|-1\\b|\\b\\d digits|changes nothing");
+    /** A word, or a mark of a part (==== 2), which asks for nothing. */
+    private static final Pattern WORD = Pattern.compile("==== \\d|[A-Za-z0-9]+");
 
     private final Map<String, String> sections = new LinkedHashMap<>();
     private final Map<String, boolean[]> tested = new LinkedHashMap<>();
@@ -35,11 +33,11 @@ final class Edges {
         String name = "";
         int from = 0;
         while (head.find()) {
-            section(name, doc.substring(from, head.start()));
+            keeps(name, doc.substring(from, head.start()));
             name = head.group(1).trim();
             from = head.end();
         }
-        section(name, doc.substring(from));
+        keeps(name, doc.substring(from));
     }
 
     private static String document() {
@@ -50,7 +48,7 @@ final class Edges {
         }
     }
 
-    private void section(String name, String text) {
+    private void keeps(String name, String text) {
         String plain = text.replaceAll("\\s+", " ");
         sections.put(name, plain);
         tested.put(name, new boolean[plain.length()]);
@@ -98,7 +96,7 @@ final class Edges {
         }
     }
 
-    /** Looks whether each word of a section that tells a boundary stands in a sentence with a test. */
+    /** Looks whether each word of a section stands in a sentence with a test. */
     void covers(String section) {
         edge = section;
         edges++;
@@ -108,16 +106,18 @@ final class Edges {
         if (text.isEmpty()) {
             tells("there is no such section");
         }
-        Matcher boundary = BOUNDARY.matcher(text);
-        while (boundary.find()) {
-            for (int i = boundary.start(); i < boundary.end(); i++) {
-                if (!has[i]) {
-                    tells("no test for: .." + around(text, boundary.start(), boundary.end()) + "..");
-                    break;
-                }
+        Matcher word = WORD.matcher(text);
+        while (word.find()) {
+            if (!word.group().startsWith("====") && !(has[word.start()] && has[word.end() - 1])) {
+                tells("no test for: .." + around(text, word.start(), word.end()) + "..");
             }
         }
         failed += wrong == before ? 0 : 1;
+    }
+
+    /** The text of a section, blanks and line ends as one blank. */
+    String section(String name) {
+        return sections.getOrDefault(name, "");
     }
 
     private static String around(String text, int from, int to) {

@@ -1,7 +1,10 @@
-/** Each sentence of the document that names a boundary case: a test of its own (issue 6). */
+/** Each sentence of the document, from its first line on: a test of its own. */
 public final class EdgesTest {
     public static void main(String[] args) {
         Edges e = new Edges();
+        StoryEdges.all(e);
+        FaceEdges.all(e);
+        PlainEdges.all(e);
         SleeperEdges.all(e);
         StreetEdges.all(e);
         MorningEdges.all(e);
@@ -12,6 +15,8 @@ public final class EdgesTest {
         ActEdges.all(e);
         TapeEdges.all(e);
         AnswerEdges.all(e);
+        e.covers("What it is");
+        e.covers("The public face");
         e.covers("Terms");
         for (int promise = 1; promise <= 33; promise++) {
             e.covers(String.valueOf(promise));
